@@ -133,9 +133,9 @@ public final class ProbeLoom {
     };
 
     private final int[] tape = new int[TAPE_MOST];
-    private final Method[] methods = new Method[METHODS_MOST];
-    private final Tale[] tales = new Tale[MANNERS];
-    private final Probes probes = new Probes();
+    private final Method[] methods;
+    private final Tale[] tales;
+    private final Probes probes;
     private final Reader reader = new Reader();
     private final Judge judge = new Judge();
     private final Weaver weaver = new Weaver();
@@ -146,13 +146,19 @@ public final class ProbeLoom {
     private int runCount = 0;
 
     public ProbeLoom() {
+        Method[] allMethods = new Method[METHODS_MOST];
         for (int m = 0; m < METHODS_MOST; m++) {
-            methods[m] = new Method(m);
+            allMethods[m] = new Method(m);
         }
+        Tale[] allTales = new Tale[MANNERS];
         for (int manner = 0; manner < MANNERS; manner++) {
-            tales[manner] = new Tale();
+            allTales[manner] = new Tale();
         }
-        machine = new Machine(methods, probes, tales[0]);
+        Probes allProbes = new Probes();
+        methods = allMethods;
+        tales = allTales;
+        probes = allProbes;
+        machine = new Machine(allMethods, allProbes, allTales[0]);
     }
 
     public int feed(int a, int b, int c, int d, int e) {
@@ -898,7 +904,7 @@ public final class ProbeLoom {
             if (of.stacks[place] == NONE) {
                 of.stacks[place] = withStack;
                 of.localTypes[place] = withLocals;
-                await(place);
+                putInLine(place);
                 return;
             }
             if (of.stacks[place] != withStack) {
@@ -910,11 +916,11 @@ public final class ProbeLoom {
             int joined = of.localTypes[place] & ~(low | low << 1);
             if (joined != of.localTypes[place]) {
                 of.localTypes[place] = joined;
-                await(place);
+                putInLine(place);
             }
         }
 
-        private void await(int place) {
+        private void putInLine(int place) {
             if (!waits[place] && waitingCount >= 0 && waitingCount < LENGTH_MOST) {
                 waits[place] = true;
                 waiting[waitingCount] = place;
