@@ -56,7 +56,6 @@ public final class ProbeLoom {
     private static final int OTHER_KIND = 100;
     private static final int FAULT_KIND_MOST = 100;
 
-    private static final int NOP = 0;
     private static final int PUSH_BYTE = 1;
     private static final int PUSH_WORD = 2;
     private static final int LOAD = 3;
@@ -380,16 +379,15 @@ public final class ProbeLoom {
     }
 
     private static int signedByteAt(int[] code, int i) {
-        return (byte) byteAt(code, i);
+        return i >= 0 && i < code.length ? (byte) code[i] : 0;
     }
 
     private static int signedPairAt(int[] code, int i) {
-        return (short) (byteAt(code, i) << 8 | byteAt(code, i + 1));
+        return i >= 0 && i < code.length - 1 ? (short) (code[i] << 8 | code[i + 1]) : 0;
     }
 
     private static int wordAt(int[] code, int i) {
-        return byteAt(code, i) << 24 | byteAt(code, i + 1) << 16
-                | byteAt(code, i + 2) << 8 | byteAt(code, i + 3);
+        return signedPairAt(code, i) << 16 | signedPairAt(code, i + 2) & 0xFFFF;
     }
 
     private static int handlerPart(int[] handlers, int k, int what) {
@@ -851,6 +849,17 @@ public final class ProbeLoom {
     private static final class Judge {
         // A place comes anew at its first state, and for each LOCAL that becomes NO.
         private static final int VISITS_MOST = LENGTH_MOST * (LOCALS_MOST + 1);
+        // By OP, from 0 to mark, of those that take and put no other TYPES, but for ROWS.
+        private static final int[] INTS_TAKEN = {
+            0, 0, 0, 0, 0, 0, 0, 0, 0, 2, 2, 2, 2, 2, 2, 2, 2, 2, 2, 1,
+            0, 1, 1, 1, 1, 1, 1, 2, 2, 2, 2, 2, 2, 1,
+            0, 1, 1, 0, 1, 2, 0, 1, 1, 1
+        };
+        private static final int[] INTS_PUT = {
+            0, 1, 1, 0, 0, 0, 0, 0, 0, 1, 1, 1, 1, 1, 1, 1, 1, 1, 1, 1,
+            0, 0, 0, 0, 0, 0, 0, 0, 0, 0, 0, 0, 0, 0,
+            1, 0, 0, 1, 1, 0, 1, 0, 0, 0
+        };
 
         private final int[] waiting = new int[LENGTH_MOST];
         private final boolean[] waits = new boolean[LENGTH_MOST];
@@ -886,7 +895,7 @@ public final class ProbeLoom {
                 }
             }
             int op = of.code[place];
-            doOp(op, byteAt(of.code, place + 1), methods);
+            doOp(shortOf(op), byteAt(of.code, place + 1), methods);
             if (goesOn(op)) {
                 comeTo(of, place + of.sizes[place], stack, locals);
             }
@@ -930,8 +939,6 @@ public final class ProbeLoom {
 
         private void doOp(int op, int operand, Method[] methods) {
             switch (op) {
-                case NOP:
-                    break;
                 case LOAD:
                     loadType(operand);
                     break;
@@ -946,20 +953,12 @@ public final class ProbeLoom {
                 case SWAP:
                     shiftAny(op);
                     break;
-                case ROW:
-                case SIZE:
-                case TAKE:
-                case LAY:
-                    doRowOp(op);
-                    break;
                 case CALL:
-                    if (operand < methods.length) {
-                        takeInts(methods[operand].arguments);
-                    }
+                    takeInts(operand < methods.length ? methods[operand].arguments : 0);
                     put(INT_TYPE);
                     break;
                 default:
-                    doIntOp(shortOf(op));
+                    doTyped(op);
                     break;
             }
         }
@@ -976,34 +975,21 @@ public final class ProbeLoom {
             }
         }
 
-        private void doRowOp(int op) {
-            if (op == ROW) {
-                takeInts(1);
-                put(ROW_TYPE);
+        /** An OP that always takes the same TYPES and puts the same. */
+        private void doTyped(int op) {
+            if (op < 0 || op >= INTS_TAKEN.length || op >= INTS_PUT.length) {
                 return;
             }
-            if (op != SIZE) {
-                takeInts(op == LAY ? 2 : 1);
+            for (int i = 0; i < INTS_TAKEN[op]; i++) {
+                wrong |= takeAny() != INT_TYPE;
             }
-            wrong |= takeAny() != ROW_TYPE;
-            if (op != LAY) {
-                put(INT_TYPE);
+            if (op == SIZE || op == TAKE || op == LAY) {
+                wrong |= takeAny() != ROW_TYPE;
             }
-        }
-
-        private void doIntOp(int op) {
-            if (op == PUSH_BYTE || op == PUSH_WORD || op == GET) {
+            if (op == ROW) {
+                put(ROW_TYPE);
+            } else if (INTS_PUT[op] > 0) {
                 put(INT_TYPE);
-            } else if (op == NEG) {
-                takeInts(1);
-                put(INT_TYPE);
-            } else if (op >= ADD && op <= SHR) {
-                takeInts(2);
-                put(INT_TYPE);
-            } else if (op >= JUMP_BY_TWO_FIRST && op <= JUMP_LAST) {
-                takeInts(2);
-            } else if (op != JUMP) {
-                takeInts(1);
             }
         }
 
@@ -1250,7 +1236,9 @@ public final class ProbeLoom {
                     into.grown += jumpGrew[place] ? 1 : 0;
                 }
             }
-            writePads(of, probes);
+            writeSidePads(of, probes);
+            writeCaughtPads(of, probes);
+            writeLeftPad(of, probes);
             writeHandlers(of);
             into.length = total;
             into.pads = padCount;
@@ -1336,12 +1324,22 @@ public final class ProbeLoom {
             }
         }
 
-        private void writePads(Method of, Probes probes) {
+        private void writeSidePads(Method of, Probes probes) {
             for (int place = 0; place < of.length; place++) {
-                if (sides[place] > 0) {
-                    writeSidePad(of, probes, place);
+                if (sides[place] == 0) {
+                    continue;
                 }
+                for (int p = 0; p < probes.count; p++) {
+                    if (probes.sortOf(p) == SIDE_SORT && probes.isAt(p, of.number, place)) {
+                        writeSide(of.woven, p, 1, NONE);
+                    }
+                }
+                int target = groupAt(targetAt(of.code, place, 0));
+                writeJump(of.woven, sidePadGrew[place] ? LONG_FIRST : JUMP, target, NONE);
             }
+        }
+
+        private void writeCaughtPads(Method of, Probes probes) {
             for (int k = 0; k < of.handlerCount; k++) {
                 if (caughtAt(of, k) > 0) {
                     int target = handlerPart(of.handlers, k, 2);
@@ -1349,22 +1347,12 @@ public final class ProbeLoom {
                     writeJump(of.woven, caughtPadGrew[k] ? LONG_FIRST : JUMP, groupAt(target), NONE);
                 }
             }
-            if (leaves > 0) {
-                writeLeftPad(of, probes);
-            }
-        }
-
-        private void writeSidePad(Method of, Probes probes, int place) {
-            for (int p = 0; p < probes.count; p++) {
-                if (probes.sortOf(p) == SIDE_SORT && probes.isAt(p, of.number, place)) {
-                    writeSide(of.woven, p, 1, NONE);
-                }
-            }
-            int target = groupAt(targetAt(of.code, place, 0));
-            writeJump(of.woven, sidePadGrew[place] ? LONG_FIRST : JUMP, target, NONE);
         }
 
         private void writeLeftPad(Method of, Probes probes) {
+            if (leaves == 0) {
+                return;
+            }
             for (int p = 0; p < probes.count; p++) {
                 if (probes.sortOf(p) == LEAVE_SORT && probes.isAt(p, of.number, 0)) {
                     writeByte(of.woven, W_LEFT, NONE);
@@ -1531,7 +1519,7 @@ public final class ProbeLoom {
 
     /** A METHOD that is at work: its place is one of the code that it runs by, plain or woven. */
     private static final class Frame {
-        private final int[] locals = new int[LOCALS_MOST];
+        final int[] locals = new int[LOCALS_MOST];
         private final int[] stack = new int[STACK_MOST];
         private int height = 0;
         Method method;
@@ -1688,7 +1676,13 @@ public final class ProbeLoom {
                 frame.place = targetAt(frame.code(), frame.place, 0);
             } else if (mayBegin(frame, op)) {
                 tale.steps++;
-                doInstruction(frame, shortOf(op));
+                if (op == CALL) {
+                    doCall(frame);
+                } else if (op == GIVE) {
+                    doGive(frame);
+                } else {
+                    doInstruction(frame, shortOf(op));
+                }
             }
             if (thrown != 0) {
                 unwind();
@@ -1710,16 +1704,9 @@ public final class ProbeLoom {
             return true;
         }
 
+        /** One that stays in its FRAME, or throws. */
         private void doInstruction(Frame frame, int op) {
             int next = frame.place + sizeAt(frame.code(), frame.place);
-            if (op == CALL) {
-                doCall(frame);
-                return;
-            }
-            if (op == GIVE) {
-                doGive(frame);
-                return;
-            }
             if (op <= SWAP) {
                 doMove(frame, op);
             } else if (op <= NEG) {
@@ -1805,8 +1792,10 @@ public final class ProbeLoom {
                     return i ^ j;
                 case SHL:
                     return i << (j & 31);
-                default:
+                case SHR:
                     return i >> (j & 31);
+                default:
+                    return 0;
             }
         }
 
@@ -1861,8 +1850,10 @@ public final class ProbeLoom {
                 case LAY:
                     layInRow(frame);
                     break;
-                default:
+                case MARK:
                     tale.addMark(frame.pop());
+                    break;
+                default:
                     break;
             }
         }
@@ -1913,7 +1904,10 @@ public final class ProbeLoom {
         }
 
         private int rowCell(int row, int i) {
-            return i >= 0 && i < sizeOfRow(row) ? FIELDS + row * ROW_INTS_MOST + i : NO_CELL;
+            if (row < 0 || row >= tale.rows || row >= ROWS_MOST || i < 0 || i >= rowSizes[row]) {
+                return NO_CELL;
+            }
+            return FIELDS + row * ROW_INTS_MOST + i;
         }
 
         private int cellInt(int cell) {
@@ -2009,8 +2003,8 @@ public final class ProbeLoom {
         }
 
         private void noteArguments(Frame frame, int p) {
-            for (int n = 0; n < frame.method.arguments; n++) {
-                tale.addRecord(p, frame.local(n));
+            for (int n = 0; n < frame.method.arguments && n < LOCALS_MOST; n++) {
+                tale.addRecord(p, frame.locals[n]);
             }
             if (frame.method.arguments == 0) {
                 tale.addRecord(p, 0);
