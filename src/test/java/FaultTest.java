@@ -44,6 +44,10 @@ public final class FaultTest {
         due("length 65535", FORM, 2, 0, 0, 255, 255, 1, 1, 42, 0);
         due("length 1", -14, 0, 0, 0, 0, 1, 42, 0);
         due("arguments ahead of locals", FORM, 0, 5, 0, 0, 0);
+        due("arguments alone, and wrong", FORM, 0, 5);
+        due("locals, the rest lacks", FORM, 1, 0, 13);
+        due("locals below arguments, the rest lacks", FORM, 1, 3, 2, 0);
+        due("the first half of a length", FORM, 3, 0, 0, 255);
     }
 
     private static void ops() {

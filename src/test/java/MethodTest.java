@@ -31,6 +31,7 @@ public final class MethodTest {
         ProbeLoom low = Kit.loomOf(0, 0, Kit.bytes(1, 5, 42, 6, 6, 6, 42));
         Kit.due("height of what is come to", low.method(0, 5), 1);
         Kit.due("all instructions", low.method(0, 4), 6);
+        Kit.due("no height at all", Kit.loomOf(0, 0, Kit.bytes(20, 0)).method(0, 5), 0);
     }
 
     private static void woven() {

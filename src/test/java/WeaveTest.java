@@ -9,6 +9,7 @@ public final class WeaveTest {
         growing();
         padsGrow();
         growingInTurn();
+        longest();
         full();
         later();
         wrongCalls();
@@ -207,6 +208,31 @@ public final class WeaveTest {
         z.weave(0);
         Kit.due("a long one is none that became so", z.method(0, 8), 0);
         Kit.due("a long one stays long", z.octet(0, true, 2), 85);
+    }
+
+    private static void longest() {
+        // 400 bytes, 8 handlers up to the end, 12 locals: 396 nops, push, give; the target gives the kind.
+        int[][] handlers = new int[8][];
+        for (int k = 0; k < 8; k++) {
+            handlers[k] = new int[] {k, 400, 399, k < 7 ? 50 + k : 0};
+        }
+        ProbeLoom x = Kit.loomOf(4, 12, Kit.join(Kit.times(396, 0), Kit.bytes(1, 5, 42, 42)), handlers);
+        Kit.due("plain", x.weave(0), 400);
+        Kit.due("plain: the last", x.moved(0, 399), 399);
+        x.probe(5, 0, 399, 0, 0);
+        x.probe(3, 0, 0, 0, 0);
+        x.probe(6, 0, 398, 1, 56);
+        x.probe(0, 0, 399, 0, 0);
+        // GROUPS 2 and 2 more at 398, 2 and 2 more at 399; 8 PADS of CAUGHT and a short jump; LEFT, AGAIN.
+        Kit.due("weave", x.weave(0), 400 + 8 + 8 * 4 + 3);
+        Kit.due("handlers", x.method(0, 7), 9);
+        Kit.due("pads", x.method(0, 9), 9);
+        Kit.due("the last moved", x.moved(0, 399), 407);
+        for (int k = 0; k < 8; k++) {
+            Kit.dueHandler("longest", x, true, k, k, 408, 408 + 4 * k, k < 7 ? 50 + k : 0);
+        }
+        Kit.dueHandler("longest", x, true, 8, 0, 408, 440, 0);
+        Kit.dueBoth("longest", x, 0, new int[] {1, 2, 3000}, new int[] {0, 56, 398}, 0, 56, 3, 0, 1, 56);
     }
 
     /** 100 times push, give, and nops: a LEAVE adds 2 bytes to each give and 2 to its PAD. */
