@@ -6,6 +6,7 @@ final class Kit {
     static final int[][] NO_HANDLERS = {};
     private static int wrong = 0;
     private static int asked = 0;
+    private static String about = "";
 
     private Kit() {
     }
@@ -15,13 +16,23 @@ final class Kit {
         if (got != want) {
             wrong++;
             if (wrong <= 50) {
-                System.out.println(what + " answered " + got + ", due is " + want);
+                System.out.println((about.isEmpty() ? "" : "[" + about + "] ") + what
+                        + " answered " + got + ", due is " + want);
             }
         }
     }
 
     static void due(String what, boolean holds) {
         due(what, holds ? 1 : 0, 1);
+    }
+
+    /** What the next answers are about: told ahead of each that is wrong. */
+    static void about(String words) {
+        about = words;
+    }
+
+    static int asked() {
+        return asked;
     }
 
     static void end() {
@@ -75,6 +86,32 @@ final class Kit {
         ProbeLoom loom = new ProbeLoom();
         due("make of the test's own method", make(loom, arguments, locals, code, handlers), 0);
         return loom;
+    }
+
+    /** What make() of a new object answers to this TAPE, and where it tells a FAULT. */
+    static void dueMade(String what, int answer, int place, int... tape) {
+        ProbeLoom loom = new ProbeLoom();
+        feed(loom, tape);
+        due(what + ": make", loom.make(), answer);
+        due(what + ": place", loom.place(), place);
+    }
+
+    /** Runs METHOD m in all MANNERS, to the same ending and answer. */
+    static void dueEnd(String what, ProbeLoom loom, int m, int[] abLimit, int ending, int answer) {
+        for (int manner = 0; manner <= 2; manner++) {
+            due(what + ": run in manner " + manner, loom.run(manner, m, abLimit[0], abLimit[1], abLimit[2]), ending);
+            due(what + ": answer in manner " + manner, loom.told(manner, 1), answer);
+        }
+    }
+
+    /** a, b and LIMIT of a RUN. */
+    static int[] ab(int a, int b, int limit) {
+        return new int[] {a, b, limit};
+    }
+
+    /** What a RUN was, its answer or KIND, its STEPS. */
+    static int[] ends(int ending, int answer, int steps) {
+        return new int[] {ending, answer, steps};
     }
 
     static int[] bytes(int... all) {
