@@ -70,6 +70,31 @@ final class InstructionEdges {
         Kit.due("399 INSTRUCTIONS", x.method(0, 4), 399);
         Kit.dueEnd("as many nops as there can be", x, 0, Kit.ab(0, 0, 399), 0, 4);
         Kit.due("each is a STEP", x.told(0, 2), 399);
+        int[][] alone = {{0}, {1, 7, 7}, {2, 0, 0, 0, 7, 7}, {3, 0, 7}, {1, 7, 4, 1}, {5, 0, 7}, {1, 7, 6, 7, 7}, {1, 7, 7},
+            {1, 7, 1, 8, 8, 7, 7}, {1, 7, 19, 7}, {20, 2}, {84, 0, 3}, {1, 7, 33, 1, 0, 6, 0, 6}, {1, 0, 33, 1, 0, 6, 0, 6},
+            {34, 0, 7}, {1, 7, 35, 0}, {1, 7, 36, 7}, {1, 7, 36, 37, 7}, {1, 7, 36, 1, 6, 38, 7}, {1, 7, 36, 1, 6, 1, 5, 39},
+            {1, 7, 43}};
+        for (int[] code : alone) {
+            dueHeight(code);
+        }
+        for (int op = 9; op <= 18; op++) {
+            dueHeight(1, 7, 1, 5, op, 7);
+        }
+        for (int op = 21; op <= 32; op++) {
+            for (int value = 6; value <= 8; value++) {
+                int[] takes = op < 27 ? Kit.bytes(1, value - 7) : Kit.bytes(1, value, 1, 7);
+                dueHeight(Kit.join(takes, Kit.bytes(op, 2)));
+                dueHeight(Kit.join(takes, Kit.bytes(op + 64, 0, 3)));
+            }
+        }
+    }
+
+    /** Behind what leaves the STACK empty there is room for ten, woven and moved as well. */
+    private static void dueHeight(int... code) {
+        ProbeLoom x = Kit.loomOf(1, 2, Kit.join(code, Kit.times(10, 1, 1), Kit.times(9, 9), Kit.bytes(42)));
+        x.probe(2, 0, 0, 0, 0);
+        x.weave(0);
+        Kit.dueEnd("ten behind OP " + code[code.length > 2 ? 2 : 0], x, 0, Kit.ab(3, 0, 99), 0, 10);
     }
 
     private static void push() {
@@ -319,6 +344,9 @@ final class InstructionEdges {
         answers("size 50", 50, 1, 50, 36, 37);
         answers("of the first of two", 3, 1, 3, 36, 4, 0, 1, 9, 36, 4, 1, 3, 0, 37);
         answers("of the second of two", 9, 1, 3, 36, 4, 0, 1, 9, 36, 4, 1, 3, 1, 37);
+        for (int many = 28; many <= 29; many++) {
+            answers("behind " + many + " others", 50, Kit.join(Kit.times(many, 1, 0, 36, 7), Kit.bytes(1, 50, 36, 37)));
+        }
         wrongTypes("size of an INT", 1, 1, 37, 42);
     }
 
@@ -369,7 +397,7 @@ final class InstructionEdges {
         int[] digits = new int[0];
         int[] all = Kit.bytes(1, 9);
         for (int n = 0; n <= 4; n++) {
-            Kit.due("make", Kit.make(x, n, n, Kit.join(Kit.bytes(1, 0), digits, Kit.bytes(42))), n);
+            Kit.due("make", Kit.make(x, n, 3 * n, Kit.join(Kit.bytes(1, 0), digits, Kit.bytes(42))), n);
             digits = Kit.join(digits, Kit.bytes(1, 10, 11, 3, n, 9));
             int[] given = new int[0];
             for (int i = 1; i <= n; i++) {

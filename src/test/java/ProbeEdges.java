@@ -67,6 +67,23 @@ final class ProbeEdges {
         Kit.due("from 0 again", x.probe(0, 0, 2, 0, 0), 0);
         Kit.due("no place within an INSTRUCTION", x.probe(0, 1, 1, 0, 0), -2);
         Kit.due("place of the last OP", x.probe(0, 1, 5, 0, 0), 1);
+        int[][] xys = {{0, 0}, {1, 9}, {2, 100}, {MIN, MAX}, {-1, -1}};
+        for (int[] xy : xys) {
+            dueWhatever(xy[0], xy[1]);
+        }
+    }
+
+    /** x and y may be any INTS where neither FAULT nor REPLACE looks at them, and say nothing. */
+    private static void dueWhatever(int anyX, int anyY) {
+        // 0 load, 2 put, 4 load, 6 jump if 0, 8 load, 10 throw, 11 give
+        ProbeLoom x = Kit.loomOf(1, 1, Kit.bytes(3, 0, 35, 0, 3, 0, 21, 2, 3, 0, 41, 42), new int[] {8, 11, 11, 9});
+        int[][] probes = {{0, 0}, {1, 6}, {2, 0}, {3, 0}, {4, 2}, {5, 11}};
+        for (int[] p : probes) {
+            Kit.due("x " + anyX + ", y " + anyY, x.probe(p[0], 0, p[1], anyX, anyY), p[0]);
+        }
+        x.weave(0);
+        Kit.dueBoth("caught", x, 0, Kit.ab(9, 0, 99), Kit.ends(0, 9, 7), 2, 9, 0, 0, 4, 0, 4, 9, 1, 0, 5, 9, 3, 9);
+        Kit.dueBoth("left", x, 0, Kit.ab(8, 0, 99), Kit.ends(1, 8, 6), 2, 8, 0, 0, 4, 0, 4, 8, 1, 0, 3, -8);
     }
 
     private static void records400() {

@@ -26,6 +26,7 @@ final class RefusedEdges {
         }
         tapeStays();
         emptyBehindMake();
+        refusedMethods();
     }
 
     /** Six METHODS, 24 PROBES, 600 bytes, RUNS in all MANNERS: there is no room for anything. */
@@ -206,5 +207,28 @@ final class RefusedEdges {
         Kit.dueEnd("METHOD 1", x, 1, Kit.ab(0, 0, 9), 0, 7);
         Kit.due("its HANDLERS", x.method(1, 3), 0);
         Kit.due("its INSTRUCTIONS", x.method(1, 4), 2);
+    }
+
+    /** Of METHODS that a FAULT refused nothing comes into the next: no HANDLERS, TYPES, INSTRUCTIONS. */
+    private static void refusedMethods() {
+        int[] well = {3, 0, 41, 9, 42};
+        int[] handler = {0, 3, 3, 0};
+        ProbeLoom x = new ProbeLoom();
+        Kit.due("a TARGET with too few", Kit.make(x, 1, 1, well, handler, handler), -14);
+        Kit.due("no such HANDLER any more", Kit.make(x, 1, 1, well), 0);
+        Kit.due("HANDLERS", x.method(0, 3), 0);
+        Kit.dueEnd("nothing catches", x, 0, Kit.ab(7, 0, 9), 1, 7);
+        int[] caught = {3, 0, 41, 42};
+        Kit.due("two HANDLERS and a JUMP", Kit.make(x, 1, 1, Kit.bytes(3, 0, 41, 42, 20, 1), handler, handler), -12);
+        Kit.due("one HANDLER", Kit.make(x, 1, 1, caught, new int[] {0, 2, 3, 0}), 1);
+        x.probe(5, 1, 3, 0, 0);
+        Kit.due("weave", x.weave(1), 8);
+        Kit.due("one PAD", x.method(1, 9), 1);
+        Kit.due("one HANDLER woven", x.method(1, 7), 1);
+        Kit.dueBoth("nothing catches", x, 1, Kit.ab(7, 0, 9), Kit.ends(1, 7, 2));
+        // Refused while TYPES at place 0 had changed: the next is looked at from there all the same.
+        Kit.due("unlike STACKS", Kit.make(x, 1, 2, Kit.bytes(1, 1, 36, 4, 0, 1, 1, 33, 1, 255, 249, 255, 251)), -14);
+        Kit.due("give of none", Kit.make(x, 0, 0, Kit.bytes(42)), -14);
+        Kit.due("give of one", Kit.make(x, 0, 0, Kit.bytes(1, 1, 42)), 2);
     }
 }

@@ -246,6 +246,15 @@ final class TellingEdges {
         Kit.dueMade("HANDLERS ahead of what lacks", FORM, 7, 0, 0, 0, 3, 1, 1, 42, 9);
         Kit.dueMade("the CODE ahead of one too much", FORM, 6, Kit.join(tell(0, 0, 44), Kit.bytes(0)));
         Kit.dueMade("the CODE ahead of what lacks", FORM, 5, 0, 0, 0, 9, 0, 44, 0);
+        // The last byte that is there may be the first that is wrong.
+        Kit.dueMade("ARGUMENTS, and no more", FORM, 0, 5);
+        Kit.dueMade("LOCALS, and no more", FORM, 1, 0, 13);
+        Kit.dueMade("LOCALS, and half of LENGTH", FORM, 1, 3, 2, 0);
+        Kit.dueMade("an OP, and no more", FORM, 5, 0, 1, 0, 9, 0, 44);
+        Kit.dueMade("a LOCAL, and no more", FORM, 5, 0, 1, 0, 9, 3, 1);
+        Kit.dueMade("a LOCAL of inc, and no more", FORM, 5, 0, 1, 0, 9, 5, 1);
+        Kit.dueMade("n of a table, and no more", FORM, 7, 0, 1, 0, 9, 1, 1, 33, 17);
+        Kit.dueMade("HANDLERS, and no more", FORM, 7, 0, 1, 0, 3, 1, 1, 42, 9);
     }
 
     private static void noSuchOp() {
@@ -339,7 +348,16 @@ final class TellingEdges {
         for (int length = 0; length < whole.length; length++) {
             Kit.dueMade(length + " bytes", FORM, length, java.util.Arrays.copyOf(whole, length));
         }
-        // What lacks is 0 in none of them, whatever stood on the TAPE before.
+        // n of a table lacks, so that it does not matter what stood there before it was cut.
+        int[] stood = {0, 1, 16, 17};
+        for (int n : stood) {
+            ProbeLoom x = new ProbeLoom();
+            Kit.feed(x, 0, 1, 0, 9, 1, 1, 33, n, 0, 0);
+            x.cut(3);
+            Kit.due("n " + n + " was cut: make", x.make(), FORM);
+            Kit.due("n " + n + " was cut: place", x.place(), 7);
+        }
+        // Nor does it matter that what was cut would be just what lacks.
         for (int length = 0; length < whole.length; length++) {
             ProbeLoom x = new ProbeLoom();
             Kit.feed(x, whole);

@@ -44,6 +44,7 @@ final class TypeEdges {
         }
         well("ten", Kit.join(ten, Kit.bytes(42)));
         wrong("eleven", Kit.join(ten, Kit.bytes(1, 1, 42)));
+        wrong("eleven, one of them gone again", Kit.join(ten, Kit.bytes(1, 1, 7, 42)));
         ProbeLoom x = Kit.loomOf(0, 12, Kit.join(ten, Kit.bytes(4, 11, 4, 10, 1, 1, 42)));
         dueType("height", x, 30, 0, 10);
         for (int cell = 0; cell < 10; cell++) {
@@ -56,6 +57,10 @@ final class TypeEdges {
         ProbeLoom y = Kit.loomOf(0, 1, Kit.bytes(1, 1, 42, 42, 9, 3, 0));
         dueType("not come to", y, 3, 0, -1);
         dueType("not come to", y, 4, 1, -1);
+        // That holds too where METHODS of the same object had INSTRUCTIONS there that could be come to.
+        Kit.due("another METHOD", Kit.make(y, 0, 0, Kit.bytes(0, 0, 0, 0, 1, 1, 42)), 1);
+        Kit.due("not come to", Kit.make(y, 0, 0, Kit.bytes(1, 1, 42, 0, 0, 0, 42)), 2);
+        Kit.due("not come to", y.type(2, 6, 0), -1);
         // A ROW as the tenth is one too.
         well("a tenth by row", Kit.join(Kit.times(10, 1, 5), Kit.bytes(36, 7, 42)));
     }
@@ -97,6 +102,19 @@ final class TypeEdges {
         dueType("behind a give", given, 3, 0, -1);
         ProbeLoom call = Kit.loomOf(0, 0, Kit.bytes(40, 0, 42));
         dueType("behind a call", call, 2, 13, INT);
+        manyWays();
+    }
+
+    /** 98 choices one behind the other, each with a way of its own: none of them is forgotten. */
+    private static void manyWays() {
+        int[] code = Kit.join(Kit.bytes(3, 0), Kit.times(98, 6, 21, 3, 42), Kit.bytes(42));
+        ProbeLoom x = Kit.loomOf(1, 4, code);
+        for (int k = 0; k < 98; k++) {
+            dueType("way " + k, x, 2 + 4 * k + 3, 0, 1);
+            int[] sizeOfInt = code.clone();
+            sizeOfInt[2 + 4 * k + 3] = 37;
+            wrong("way " + k, sizeOfInt);
+        }
     }
 
     private static void toTarget() {
@@ -220,6 +238,7 @@ final class TypeEdges {
         for (int[] put : putters) {
             well(put[0] + " on nine", Kit.join(Kit.times(9, 1, 5), put, Kit.bytes(42)));
             wrong(put[0] + " on ten", Kit.join(Kit.times(10, 1, 5), put, Kit.bytes(42)));
+            wrong(put[0] + " on ten, then pop", Kit.join(Kit.times(10, 1, 5), put, Kit.bytes(7, 42)));
         }
         ProbeLoom x = Kit.loomOf(0, 0, Kit.bytes(1, 1, 42));
         Kit.due("a call that takes none, on nine", Kit.make(x, 0, 0,

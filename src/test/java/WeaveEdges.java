@@ -150,6 +150,26 @@ final class WeaveEdges {
             Kit.dueBoth("KIND " + kind, x, 0, Kit.ab(kind, 0, 99), Kit.ends(0, kind, 3), want);
         }
         Kit.dueBoth("no KIND", x, 0, Kit.ab(9, 0, 99), Kit.ends(1, 9, 2));
+        otherSortsAtTargets();
+    }
+
+    /** A TARGET has a PAD by CAUGHT alone: PROBES of other SORTS there make none. */
+    private static void otherSortsAtTargets() {
+        ProbeLoom put = Kit.loomOf(1, 1, Kit.bytes(3, 0, 41, 35, 0, 1, 7, 42), new int[] {0, 3, 3, 0});
+        int[] sorts = {0, 4, 6};
+        for (int sort : sorts) {
+            Kit.due("probe", put.probe(sort, 0, 3, 900, 9) >= 0);
+        }
+        Kit.due("weave", put.weave(0), 8 + 8);
+        Kit.due("no PAD", put.method(0, 9), 0);
+        Kit.due("TARGET", put.handler(0, true, 0, 2), 3);
+        Kit.dueBoth("caught", put, 0, Kit.ab(9, 0, 99), Kit.ends(0, 7, 5), 0, 0, 1, 0, 1, 9);
+        ProbeLoom choice = Kit.loomOf(1, 1, Kit.bytes(3, 0, 41, 22, 2, 1, 7, 42), new int[] {0, 3, 3, 0});
+        choice.probe(1, 0, 3, 0, 0);
+        Kit.due("weave", choice.weave(0), 8 + 3 + 5);
+        Kit.due("one PAD, of SIDE", choice.method(0, 9), 1);
+        Kit.due("TARGET", choice.handler(0, true, 0, 2), 3);
+        Kit.dueBoth("caught", choice, 0, Kit.ab(9, 0, 99), Kit.ends(0, 7, 5), 0, 1);
     }
 
     private static void leftPad() {
@@ -230,6 +250,14 @@ final class WeaveEdges {
         y.probe(7, 0, 7, 6, 0);
         Kit.due("weave", y.weave(0), 21);
         Kit.dueHandler("TO LENGTH", y, true, 0, 3, 16, 2, 0);
+        ProbeLoom most = Kit.loomOf(0, 0, Kit.join(Kit.times(396, 0), Kit.bytes(1, 5, 42, 42)),
+                new int[] {399, 400, 399, 0});
+        most.probe(0, 0, 0, 0, 0);
+        most.probe(0, 0, 399, 0, 0);
+        most.probe(3, 0, 0, 0, 0);
+        Kit.due("weave", most.weave(0), 400 + 4 + 4 + 3);
+        Kit.dueHandler("LENGTH 400", most, true, 0, 403, 408, 403, 0);
+        Kit.dueHandler("LENGTH 400, of LEAVE", most, true, 1, 0, 408, 408, 0);
     }
 
     private static void tables() {
@@ -301,6 +329,30 @@ final class WeaveEdges {
         x.weave(0);
         Kit.due("short again", x.octet(0, true, 0), 20);
         Kit.due("none became long", x.method(0, 8), 0);
+        padsAsTold();
+    }
+
+    /** Jumps of one METHOD that became long leave those of another as they were told, near and far on. */
+    private static void padsAsTold() {
+        for (int ahead = 0; ahead <= 240; ahead += 240) {
+            ProbeLoom x = new ProbeLoom();
+            for (int nops = 140; nops >= 0; nops -= 140) {
+                // nops, 0 load, 2 if 0 to 7, 4 jump to 7, 6 mark of what is thrown, 7 nops, push, give
+                Kit.make(x, 1, 1, Kit.join(Kit.times(ahead, 0), Kit.bytes(3, 0, 21, 5, 20, 3, 43), Kit.times(nops, 0),
+                        Kit.bytes(1, 7, 42)), new int[] {ahead, ahead + 2, ahead + 6, 0});
+            }
+            Kit.due("two METHODS", x.count(0), 2);
+            for (int m = 0; m < 2; m++) {
+                x.probe(1, m, ahead + 2, 0, 0);
+                x.probe(5, m, ahead + 6, 0, 0);
+            }
+            // 10 and nops, SIDE 3, PADS 5 and 4; in METHOD 0 the choice and both PADS' jumps are long.
+            Kit.due("long ones", x.weave(0), ahead + 150 + 3 + 5 + 4 + 3);
+            Kit.due("short ones", x.weave(1), ahead + 10 + 3 + 5 + 4);
+            Kit.due("PAD of SIDE", x.octet(1, true, ahead + 16), 20);
+            Kit.due("PAD of CAUGHT", x.octet(1, true, ahead + 20), 20);
+            Kit.due("none became long", x.method(1, 8), 0);
+        }
     }
 
     /** A jump on over so many nops, with so many PASS at the first of them. */
@@ -330,8 +382,80 @@ final class WeaveEdges {
             dueBack(op, 124, op, -128);
             dueBack(op, 125, op + 64, -129);
         }
+        probesAtTheJump();
         growInTurn();
+        growOneByOne();
         padsReach();
+        longerPadsReach();
+    }
+
+    /** How far it leads is told from the jump itself, behind its PROBES, to the GROUP of where it leads. */
+    private static void probesAtTheJump() {
+        ProbeLoom x = Kit.loomOf(0, 0, Kit.join(Kit.bytes(20, 127), Kit.times(125, 0), Kit.bytes(1, 7, 42)));
+        for (int p = 0; p < 10; p++) {
+            x.probe(0, 0, p % 2 == 0 ? 0 : 127, 0, 0);
+        }
+        x.weave(0);
+        Kit.due("short", x.octet(0, true, 10), 20);
+        Kit.due("by 127", x.octet(0, true, 11), 127);
+        // Back it leads to the GROUP, so that PROBES there and at the jump are in between.
+        for (int passes = 1; passes <= 4; passes++) {
+            ProbeLoom y = Kit.loomOf(0, 0, Kit.join(Kit.times(122, 0), Kit.bytes(20, -122)));
+            for (int p = 0; p < passes; p++) {
+                y.probe(0, 0, p % 2 == 0 ? 122 : 0, 0, 0);
+            }
+            y.weave(0);
+            Kit.due(passes + " in between", y.octet(0, true, 122 + 2 * passes), passes <= 3 ? 20 : 84);
+        }
+    }
+
+    /** Of 41 jumps each reaches but for those behind it: each becomes long in a round of its own. */
+    private static void growOneByOne() {
+        int[] code = new int[0];
+        for (int i = 0; i <= 40; i++) {
+            code = Kit.join(code, Kit.bytes(20, 86 + i));
+        }
+        code = Kit.join(code, Kit.times(206 - code.length, 0), Kit.bytes(1, 7, 42));
+        ProbeLoom x = Kit.loomOf(0, 0, code);
+        Kit.due("as told none grows", x.weave(0), 209);
+        x.probe(0, 0, 84, 0, 0);
+        Kit.due("all grow", x.weave(0), 209 + 2 + 41);
+        Kit.due("41 became long", x.method(0, 8), 41);
+        for (int i = 0; i <= 40; i++) {
+            int at = x.moved(0, 2 * i);
+            Kit.due("jump " + i, x.octet(0, true, at), 84);
+            Kit.due("jump " + i + " leads", at + x.octet(0, true, at + 1) * 256 + x.octet(0, true, at + 2),
+                    x.moved(0, 86 + 3 * i));
+        }
+        // With one byte less the last but one reaches, and so do all ahead of it.
+        code[2 * 39 + 1]--;
+        ProbeLoom y = Kit.loomOf(0, 0, code);
+        y.probe(0, 0, 84, 0, 0);
+        Kit.due("the last one grows", y.weave(0), 209 + 2 + 1);
+        Kit.due("one became long", y.method(0, 8), 1);
+    }
+
+    /** Three SIDES, three CAUGHT: the jump of the PAD stands behind them all, and leads from there. */
+    private static void longerPadsReach() {
+        for (int nops = 115; nops <= 118; nops++) {
+            // Long choice at 2, SIDES 5 .. 13, GROUP 14; PAD at 17 and nops, its jump 9 behind it.
+            ProbeLoom x = Kit.loomOf(1, 1, Kit.join(Kit.bytes(3, 0, 85, 0, 3), Kit.times(nops, 0), Kit.bytes(1, 7, 42)));
+            // TARGET 3; PAD at 9 and nops, its jump 6 behind it.
+            ProbeLoom y = Kit.loomOf(1, 1, Kit.join(Kit.bytes(3, 0, 41, 7), Kit.times(nops + 2, 0), Kit.bytes(1, 7, 42)),
+                    new int[] {0, 3, 3, 0});
+            for (int p = 0; p < 3; p++) {
+                x.probe(1, 0, 2, 0, 0);
+                y.probe(5, 0, 3, 0, 0);
+            }
+            // Both lead back by 12 and nops.
+            boolean reaches = nops <= 116;
+            Kit.due("SIDES with " + nops, x.weave(0), 26 + nops + (reaches ? 2 : 3));
+            Kit.due("its jump", x.octet(0, true, 26 + nops), reaches ? 20 : 84);
+            Kit.dueBoth("jumped", x, 0, Kit.ab(0, 0, 3000), Kit.ends(0, 7, nops + 4), 0, 1, 1, 1, 2, 1);
+            Kit.due("CAUGHT with " + nops, y.weave(0), 15 + nops + (reaches ? 2 : 3));
+            Kit.due("its jump", y.octet(0, true, 15 + nops), reaches ? 20 : 84);
+            Kit.dueBoth("caught", y, 0, Kit.ab(9, 0, 3000), Kit.ends(0, 7, nops + 7), 0, 9, 1, 9, 2, 9);
+        }
     }
 
     /** nops, the first of them with a PASS, then a jump back to the first; by so much it leads then. */
@@ -390,6 +514,14 @@ final class WeaveEdges {
             Kit.due("it leads back", x.octet(0, true, jump + (nops > 122 ? 2 : 1)), -6 - nops & 255);
             Kit.dueBoth("jumped", x, 0, Kit.ab(0, 0, 3000), Kit.ends(0, 7, nops + 4), 0, 1);
         }
+        // A long choice: the PAD's jump alone may not reach.
+        for (int nops = 121; nops <= 124; nops++) {
+            ProbeLoom x = Kit.loomOf(1, 1, Kit.join(Kit.bytes(3, 0, 85, 0, 3), Kit.times(nops, 0), Kit.bytes(1, 7, 42)));
+            x.probe(1, 0, 2, 0, 0);
+            Kit.due("weave with " + nops, x.weave(0), 14 + nops + (nops > 122 ? 3 : 2));
+            Kit.due("the PAD's jump, with " + nops, x.octet(0, true, 14 + nops), nops > 122 ? 84 : 20);
+            Kit.due("none of the CODE became long", x.method(0, 8), 0);
+        }
         for (int nops = 121; nops <= 124; nops++) {
             ProbeLoom x = Kit.loomOf(1, 1, Kit.join(Kit.bytes(3, 0, 41, 7), Kit.times(nops, 0), Kit.bytes(1, 7, 42)),
                     new int[] {0, 3, 3, 0});
@@ -419,6 +551,33 @@ final class WeaveEdges {
         Kit.dueBoth("now", x, 1, Kit.ab(0, 0, 99), Kit.ends(1, 9, 2), 4, 0, 1, 0, 0, 5, 2, -9);
         x.probe(0, 0, 2, 0, 0);
         Kit.dueBoth("not the sixth", x, 1, Kit.ab(0, 0, 99), Kit.ends(1, 9, 2), 4, 0, 1, 0, 0, 5, 2, -9);
+        for (int sort = 0; sort < 8; sort++) {
+            laterOf(sort);
+        }
+    }
+
+    /** Each INSTRUCTION has a PASS; one more PROBE of the SORT comes too late, at one of them. */
+    private static void laterOf(int sort) {
+        // 0 load, 2 put, 4 load, 6 jump if 0, 8 load, 10 throw, 11 give
+        int[] code = {3, 0, 35, 0, 3, 0, 21, 2, 3, 0, 41, 42};
+        int[] where = {2, 6, 0, 0, 2, 11, 11, 0};
+        int[] early = {0, 2, 4, 6, 8, 10, 11};
+        ProbeLoom x = Kit.loomOf(1, 1, sort == 7 ? Kit.bytes(34, 0, 35, 0, 3, 0, 21, 2, 3, 0, 41, 42) : code,
+                new int[] {8, 11, 11, 0});
+        int[] want = new int[14];
+        for (int p = 0; p < early.length; p++) {
+            x.probe(0, 0, early[p], 0, 0);
+            want[2 * p] = p;
+        }
+        x.weave(0);
+        Kit.due("SORT " + sort, x.probe(sort, 0, where[sort], 1, 1), 7);
+        Kit.dueBoth("SORT " + sort + " came too late", x, 0, Kit.ab(9, 0, 99), Kit.ends(0, 9, 7), want);
+        x.weave(0);
+        x.run(1, 0, 9, 0, 99);
+        x.run(2, 0, 9, 0, 99);
+        Kit.due("woven anew", x.records(1, 7) > 0 || sort == 6);
+        Kit.due("woven anew, watched", x.records(2, 7), x.records(1, 7));
+        Kit.due("a FAULT, woven anew", x.told(2, 0), sort == 6 ? 1 : 0);
     }
 
     /** 100 times push, give, then nops: a LEAVE adds 2 bytes to each give, and LEFT of 2. */
@@ -483,6 +642,57 @@ final class WeaveEdges {
             Kit.dueBoth("unwoven", x, 1, Kit.ab(0, 0, 99), Kit.ends(0, 55, 6));
         }
         Kit.due("no MANNER 3", Kit.loomOf(0, 0, Kit.bytes(1, 5, 42)).run(3, 0, 0, 0, 9), -2);
+        plainWithEverySort();
+        operandsMoved();
+    }
+
+    /** Each kind of operand is read where its INSTRUCTION stands in the WOVEN code. */
+    private static void operandsMoved() {
+        int[][] codes = {{1, 7}, {2, 1, 2, 3, 4}, {3, 0}, {1, 7, 4, 1, 3, 1}, {5, 0, 250, 3, 0}, {20, 3, 0, 1, 7},
+            {84, 0, 4, 0, 1, 7}, {3, 0, 21, 3, 0, 1, 7}, {3, 0, 86, 0, 4, 0, 1, 7}, {3, 0, 33, 1, 0, 7, 0, 6, 0, 1, 7},
+            {1, 7, 35, 5, 34, 5}, {1, 2, 40, 0}};
+        for (int[] code : codes) {
+            ProbeLoom x = Kit.loomOf(1, 1, Kit.bytes(3, 0, 6, 9, 42));
+            Kit.make(x, 1, 2, Kit.join(code, Kit.bytes(42)));
+            for (int p = 0; p < 5; p++) {
+                x.probe(2, 1, 0, 0, 0);
+            }
+            x.weave(1);
+            for (int a = 0; a <= 1; a++) {
+                int end = x.run(0, 1, a, 0, 99);
+                int answer = x.told(0, 1);
+                int steps = x.told(0, 2);
+                Kit.dueBoth("OP " + code[0] + ", " + code[2 % code.length], x, 1, Kit.ab(a, 0, 99),
+                        Kit.ends(end, answer, steps), 0, a, 1, a, 2, a, 3, a, 4, a);
+            }
+        }
+    }
+
+    /** Plain there are no RECORDS of any SORT, however it ends; unwoven there are none in any MANNER. */
+    private static void plainWithEverySort() {
+        // 0 load, 2 put, 4 load, 6 jump if 0 to 11, 8 load, 10 throw, 11 nop, 12 push, 14 give, 15 give
+        ProbeLoom x = Kit.loomOf(1, 1, Kit.bytes(3, 0, 35, 0, 3, 0, 21, 5, 3, 0, 41, 0, 1, 6, 42, 42),
+                new int[] {8, 11, 15, 9});
+        int[][] probes = {{0, 0}, {1, 6}, {2, 0}, {3, 0}, {4, 2}, {5, 15}, {6, 12}, {7, 12}};
+        for (int[] p : probes) {
+            Kit.due("probe", x.probe(p[0], 0, p[1], 1, 50) >= 0);
+        }
+        x.weave(0);
+        int[][] cases = {{0, 0, 6, 7}, {9, 0, 9, 7}, {8, 1, 8, 6}};
+        for (int[] c : cases) {
+            Kit.due("run", x.run(0, 0, c[0], 0, 99), c[1]);
+            Kit.due("answer", x.told(0, 1), c[2]);
+            Kit.due("STEPS", x.told(0, 2), c[3]);
+            Kit.due("RECORDS", x.told(0, 4), 0);
+        }
+        x.unweave(0);
+        for (int[] c : cases) {
+            Kit.dueBoth("unwoven", x, 0, Kit.ab(c[0], 0, 99), Kit.ends(c[1], c[2], c[3]));
+        }
+        // Woven anew without LEAVE there is no HANDLER of it any more.
+        x.clear();
+        x.weave(0);
+        Kit.dueBoth("cleared, woven", x, 0, Kit.ab(8, 0, 99), Kit.ends(1, 8, 6));
     }
 
     private static void stepsOfTheCode() {
