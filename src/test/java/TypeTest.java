@@ -7,6 +7,8 @@ public final class TypeTest {
         wrongTypes();
         heights();
         ends();
+        manyPasses();
+        manyAtOnce();
         wrongCalls();
         Kit.end();
     }
@@ -164,6 +166,66 @@ public final class TypeTest {
         well("an end that can't be come to", Kit.bytes(1, 1, 42, 0));
         well("wrong types that can't be come to", Kit.bytes(1, 1, 42, 9, 9));
         well("a table at the end", Kit.bytes(3, 0, 33, 1, 255, 254, 255, 254));
+    }
+
+    /** A long way that is come to 13 times, each time with one LOCAL more that is NO. */
+    private static int[] comeToThirteenTimes(int... lastOfTheWay) {
+        int way = 8 * 4 + 12 * 10;
+        int[] code = {};
+        for (int n = 4; n < 12; n++) {
+            code = Kit.join(code, Kit.bytes(1, 0, 4, n));
+        }
+        for (int n = 0; n < 12; n++) {
+            int distance = way - (code.length + 2);
+            code = Kit.join(code, Kit.bytes(1, 0, 86, distance >> 8, distance & 255, 1, 0, 36, 4, n));
+        }
+        return Kit.join(code, Kit.times(400 - way - lastOfTheWay.length, 0), lastOfTheWay);
+    }
+
+    private static void manyPasses() {
+        ProbeLoom x = Kit.loomOf(4, 12, comeToThirteenTimes(1, 0, 42));
+        for (int place = 152; place < 400; place++) {
+            boolean begins = place != 398;
+            Kit.due("height at " + place, x.type(0, place, 0), !begins ? -1 : place == 399 ? 1 : 0);
+            for (int what = 1; what <= 12; what++) {
+                Kit.due("NO at " + place + " of " + what, x.type(0, place, what), begins ? 0 : -1);
+            }
+        }
+        Kit.due("the last LOCAL ahead of it", x.type(0, 150, 12), 1);
+        for (int n = 0; n < 12; n++) {
+            Kit.due("load of LOCAL " + n + " at the end of the way",
+                    Kit.make(new ProbeLoom(), 4, 12, comeToThirteenTimes(3, n, 7, 1, 0, 42)), -14);
+        }
+    }
+
+    /** 7 tables: 16 ways of each lead to gives of their own, its last one to the next table. */
+    private static void manyAtOnce() {
+        int tables = 7;
+        int gives = 2 + 37 * tables;
+        int[] code = {1, 0};
+        for (int t = 0; t < tables; t++) {
+            int at = code.length + 1;
+            code = Kit.join(code, Kit.bytes(6, 33, 16));
+            for (int k = 0; k < 16; k++) {
+                code = Kit.join(code, pair(gives + 16 * t + k - at));
+            }
+            code = Kit.join(code, pair((t < tables - 1 ? at + 36 : gives + 16 * tables) - at));
+        }
+        int end = gives + 16 * tables + 1;
+        ProbeLoom x = Kit.loomOf(0, 0, Kit.join(code, Kit.times(end - gives, 42)));
+        for (int place = gives; place < end; place++) {
+            Kit.due("come to at " + place, x.type(0, place, 0), 1);
+            Kit.due("an INT at " + place, x.type(0, place, 13), 1);
+        }
+        for (int wrongOne = gives; wrongOne < end; wrongOne++) {
+            int[] other = Kit.join(code, Kit.times(end - gives, 42));
+            other[wrongOne] = 37;
+            Kit.due("size of an INT at " + wrongOne, Kit.make(new ProbeLoom(), 0, 0, other), -14);
+        }
+    }
+
+    private static int[] pair(int value) {
+        return Kit.bytes(value >> 8 & 255, value & 255);
     }
 
     private static void wrongCalls() {

@@ -9,6 +9,7 @@ public final class WeaveTest {
         growing();
         padsGrow();
         growingInTurn();
+        growingOneByOne();
         longest();
         full();
         later();
@@ -233,6 +234,41 @@ public final class WeaveTest {
         }
         Kit.dueHandler("longest", x, true, 8, 0, 408, 440, 0);
         Kit.dueBoth("longest", x, 0, new int[] {1, 2, 3000}, new int[] {0, 56, 398}, 0, 56, 3, 0, 1, 56);
+    }
+
+    /**
+     * 136 jumps one behind the other, the last of which does not reach by the PASS; each of the others
+     * just reaches until the one behind it is long, so that each round makes one more long.
+     */
+    private static void growingOneByOne() {
+        int jumps = 136;
+        int[] code = new int[2 * jumps + 128];
+        for (int k = 0; k < jumps; k++) {
+            int place = 2 * (jumps - 1 - k);
+            code[place] = 20;
+            code[place + 1] = k < 42 ? 126 - k : 86;
+        }
+        code[code.length - 3] = 1;
+        code[code.length - 1] = 42;
+        ProbeLoom x = Kit.loomOf(0, 0, code);
+        Kit.due("the pass", x.probe(0, 0, 2 * jumps, 0, 0), 0);
+        int[] want = new int[3 * jumps + 2 + 128];
+        for (int k = 0; k < jumps; k++) {
+            int at = 3 * (jumps - 1 - k);
+            // The first 42 lead behind the PASS, the others to the 43rd jump behind them.
+            int distance = k < 42 ? 3 * jumps + 2 + 124 - 3 * k - at : 3 * 43;
+            want[at] = 84;
+            want[at + 1] = distance >> 8;
+            want[at + 2] = distance & 255;
+        }
+        want[3 * jumps] = 48;
+        want[want.length - 3] = 1;
+        want[want.length - 1] = 42;
+        Kit.due("weave", x.weave(0), want.length);
+        Kit.dueWoven("one by one", x, 0, want);
+        Kit.due("all became long", x.method(0, 8), jumps);
+        Kit.due("without the pass none does", Kit.loomOf(0, 0, code).weave(0), code.length);
+        Kit.dueEnd("one by one", x, 0, new int[] {0, 0, 3000}, 0, 0);
     }
 
     /** 100 times push, give, and nops: a LEAVE adds 2 bytes to each give and 2 to its PAD. */
