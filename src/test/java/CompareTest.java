@@ -6,6 +6,7 @@ import java.util.Random;
 /** Many objects with METHODS and PROBES by chance, from fixed seeds, compared with the Model in all. */
 public final class CompareTest {
     private static final int OBJECTS = 1500;
+    private static final int SCATTERED_OBJECTS = 1000;
     private static final int[] SOME = {0, 1, -1, 2, 3, 5, 7, 31, 32, 50, 51, 99, 100, 101, -128, 127,
         Integer.MAX_VALUE, Integer.MIN_VALUE};
 
@@ -22,6 +23,10 @@ public final class CompareTest {
             chance = new Random(seed);
             oneObject(seed);
         }
+        for (int seed = OBJECTS + 1; seed <= OBJECTS + SCATTERED_OBJECTS; seed++) {
+            chance = new Random(seed);
+            oneScatteredObject(seed);
+        }
         System.out.println("endings " + Arrays.toString(endings) + ", faults "
                 + Arrays.toString(faults) + ", grown " + grown + ", records " + recordsMade
                 + ", full weaves " + fullWeaves + ", frames, rows, records, marks at their most "
@@ -33,6 +38,7 @@ public final class CompareTest {
             Kit.due("some make told fault " + i, faults[i] > 50);
         }
         Kit.due("some jumps grew", grown > 100);
+        Kit.due("some weaves had no room", fullWeaves > 50);
         for (int i = 0; i < 4; i++) {
             Kit.due("some runs came to the most of " + i, deep[i] > 10);
         }
@@ -50,6 +56,20 @@ public final class CompareTest {
             }
             compareMake(seed, loom, model, tape);
         }
+        compareWork(seed, loom, model);
+    }
+
+    /** Few of these METHODS are taken, so there are many tries. */
+    private static void oneScatteredObject(int seed) {
+        ProbeLoom loom = new ProbeLoom();
+        Model model = new Model();
+        for (int tries = 0; tries < 150 && model.methods.size() < 6; tries++) {
+            compareMake(seed, loom, model, new Scatter(chance, model).tape());
+        }
+        compareWork(seed, loom, model);
+    }
+
+    private static void compareWork(int seed, ProbeLoom loom, Model model) {
         if (model.methods.isEmpty()) {
             return;
         }
@@ -60,6 +80,9 @@ public final class CompareTest {
                 model.clear();
             }
             someProbes(seed, loom, model);
+            if (chance.nextInt(4) == 0) {
+                manyLeaves(seed, loom, model);
+            }
             for (int m = 0; m < model.methods.size(); m++) {
                 if (chance.nextInt(4) != 0) {
                     int want = model.weave(m);
@@ -185,6 +208,14 @@ public final class CompareTest {
             }
         }
         Kit.due(seed + ": probes", loom.count(1), model.probes.size());
+    }
+
+    /** Where a METHOD has many gives these are more than a WOVEN code has room for. */
+    private static void manyLeaves(int seed, ProbeLoom loom, Model model) {
+        int m = chance.nextInt(model.methods.size());
+        for (int many = chance.nextInt(14); many > 0; many--) {
+            Kit.due(seed + ": leave", loom.probe(3, m, 0, 0, 0), model.probe(3, m, 0, 0, 0));
+        }
     }
 
     private static void compareWoven(int seed, ProbeLoom loom, Model.Meth m) {

@@ -30,9 +30,14 @@ final class Maker {
             emit(1, chance.nextInt(256), 4, n);
         }
         emit(1, chance.nextInt(8), 36, 4, rowLocal);
-        int statements = chance.nextInt(5) == 0 ? 60 : 2 + chance.nextInt(14);
+        boolean manyGives = chance.nextInt(8) == 0;
+        int statements = manyGives || chance.nextInt(5) == 0 ? 80 : 2 + chance.nextInt(14);
         for (int i = 0; i < statements && code.size() < 330; i++) {
-            if (chance.nextInt(7) == 0) {
+            if (manyGives && chance.nextInt(3) != 0) {
+                starts.add(code.size());
+                load();
+                emit(42);
+            } else if (chance.nextInt(7) == 0) {
                 endAndCatch();
             } else {
                 starts.add(code.size());
